@@ -1,0 +1,126 @@
+import java.util.ArrayList;
+import java.util.Collections;
+import java.util.List;
+import java.util.Random;
+
+/** Puzzles for tests: some known ones, and others made from a seed. */
+final class Puzzles {
+    static final String[] KNOWN = {
+        "530070000600195000098000060800060003400803001700020006060000280000419005000080079",
+        "100007090030020008009600500005300900010080002600004000300000010040000007007000300",
+        "000000039000001005003050800008090006070002000100400000009080050020000600400700000",
+        "100000002090400050006000700050903000000070000000850040700000600030009080002000001",
+        "005300000800000020070010500400005300010070006003200080060500009004000030000009700",
+        "000000010400000000020000000000050407008000300001090000300400200050100000000806000",
+    };
+
+    private final Random random;
+
+    Puzzles(long seed) {
+        random = new Random(seed);
+    }
+
+    static int[] of(String text) {
+        int[] cells = new int[81];
+        for (int c = 0; c < 81; c++) {
+            cells[c] = text.charAt(c) - '0';
+        }
+        return cells;
+    }
+
+    /** A puzzle with one solution, of which no given digit can be spared. */
+    int[] minimal() {
+        int[] cells = new int[81];
+        fill(cells, 1);
+        List<Integer> order = new ArrayList<>();
+        for (int c = 0; c < 81; c++) {
+            order.add(c);
+        }
+        Collections.shuffle(order, random);
+        for (int c : order) {
+            int digit = cells[c];
+            cells[c] = 0;
+            if (fill(cells.clone(), 2) > 1) {
+                cells[c] = digit;
+            }
+        }
+        return cells;
+    }
+
+    /** A minimal puzzle with some given digits taken away: mostly several solutions. */
+    int[] loose(int without) {
+        int[] cells = minimal();
+        for (int i = 0; i < without; ) {
+            int c = random.nextInt(81);
+            if (cells[c] != 0) {
+                cells[c] = 0;
+                i++;
+            }
+        }
+        return cells;
+    }
+
+    /** A minimal puzzle with other digits in some cells: mostly no solution. */
+    int[] broken(int changes) {
+        int[] cells = minimal();
+        for (int i = 0; i < changes; i++) {
+            cells[random.nextInt(81)] = 1 + random.nextInt(9);
+        }
+        return cells;
+    }
+
+    int[] scattered(int count) {
+        int[] cells = new int[81];
+        for (int i = 0; i < count; i++) {
+            cells[random.nextInt(81)] = 1 + random.nextInt(9);
+        }
+        return cells;
+    }
+
+    /** How many solutions there are, up to most; the cells are left filled if that many are found. */
+    int fill(int[] cells, int most) {
+        int best = -1;
+        int bestMay = 0;
+        int fewest = 10;
+        for (int c = 0; c < 81; c++) {
+            if (cells[c] == 0) {
+                int may = may(cells, c);
+                if (Integer.bitCount(may) < fewest) {
+                    best = c;
+                    bestMay = may;
+                    fewest = Integer.bitCount(may);
+                }
+            }
+        }
+        if (best < 0) {
+            return 1;
+        }
+        List<Integer> digits = new ArrayList<>();
+        for (int d = 1; d <= 9; d++) {
+            if ((bestMay >> d & 1) != 0) {
+                digits.add(d);
+            }
+        }
+        Collections.shuffle(digits, random);
+        int found = 0;
+        for (int d : digits) {
+            cells[best] = d;
+            found += fill(cells, most - found);
+            if (found >= most) {
+                return found;
+            }
+        }
+        cells[best] = 0;
+        return found;
+    }
+
+    private static int may(int[] cells, int cell) {
+        int used = 0;
+        for (int c = 0; c < 81; c++) {
+            if (Plain.peers(c, cell)) {
+                used |= 1 << cells[c];
+            }
+        }
+        return 1022 & ~used;
+    }
+}
