@@ -11,6 +11,7 @@ public final class ClaimTest {
         nakedWithAnEmptyCell();
         hidden();
         fish();
+        tooFew();
         wrongRules();
         nodes();
         shortChain();
@@ -122,10 +123,9 @@ public final class ClaimTest {
 
     private static void claimSingles(SudokuGrader x) {
         for (int cell = 0; cell < 81; cell++) {
-            for (int digit = 1; digit <= 9; digit++) {
-                if (x.candidates(cell, 2) == 1 << (digit - 1)) {
-                    x.claim(0, cell, digit);
-                }
+            int bits = x.candidates(cell, 2);
+            if (Integer.bitCount(bits) == 1) {
+                x.claim(0, cell, Integer.numberOfTrailingZeros(bits) + 1);
             }
         }
     }
@@ -172,6 +172,21 @@ public final class ClaimTest {
         CHECK.due("empty", x.candidates(1, 1), 0);
         CHECK.due("a pair", x.candidates(2, 1), 384);
         claim(x, 4, 18, Grids.bits(1, 2), 12);
+    }
+
+    /** Fewer than k together are not k together, whatever might go. */
+    private static void tooFew() {
+        SudokuGrader x = new SudokuGrader();
+        x.give(0, 5);
+        x.give(1, 5);
+        claim(x, 4, 0, Grids.bits(0, 1), -1);
+        SudokuGrader hidden = new SudokuGrader();
+        hidden.row(0, 12345671);
+        claim(hidden, 5, 0, Grids.bits(7, 8), -1);
+        SudokuGrader fish = new SudokuGrader();
+        fish.row(0, 12345678);
+        fish.row(4, 12345678);
+        claim(fish, 8, 9, Grids.bits(0, 4), -1);
     }
 
     private static void hidden() {
@@ -305,6 +320,9 @@ public final class ClaimTest {
         // strong at both ends, but the middle ones are no two
         put(x, 8, 17, 17, 8);
         claim(x, 13, 2, 8, -1);
+        // one digit in two cells of a column and a box, but others there have it too
+        put(x, 8, 89);
+        claim(x, 13, 1, 8, -1);
         // node 26 isn't there: cell 2 has a given 1
         put(x, 8, 26);
         claim(x, 13, 1, 8, -1);

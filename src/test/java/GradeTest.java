@@ -117,40 +117,52 @@ public final class GradeTest {
 
     /** What is told of the steps adds up to what is told of the trace and to the candidates. */
     private static void tracesAddUp(String puzzle) {
-        SudokuGrader x = Grids.graded(puzzle);
         int score = 0;
         int level = -1;
-        int went = 0;
         List<Integer> all = new ArrayList<>();
-        for (int i = 0; i < x.told(0); i++) {
-            score += WEIGHTS[x.step(i, 0)];
-            level = Math.max(level, x.step(i, 0));
-            went += x.step(i, 3);
-            for (int k = 0; k < x.step(i, 3); k++) {
-                all.add(x.gone(i, k));
-                CHECK.due("rising", k == 0 || x.gone(i, k - 1) < x.gone(i, k), true);
+        int steps = Grids.graded(puzzle).told(0);
+        for (int i = 0; i < steps; i++) {
+            SudokuGrader x = Grids.graded(puzzle);
+            int rule = x.step(i, 0);
+            score += WEIGHTS[rule];
+            level = Math.max(level, rule);
+            all.addAll(goneBy(x, i));
+            CHECK.due("nodes of a chain", x.step(i, 4), rule == 13 ? 2 * x.step(i, 1) : 0);
+        }
+        SudokuGrader x = Grids.graded(puzzle);
+        tell(puzzle, x, steps, score, level, all.size(), 1);
+        for (int cell = 0; cell < 81; cell++) {
+            int left = x.candidates(cell, 2);
+            for (int d = 0; d < 9; d++) {
+                left &= all.contains(9 * cell + d) ? ~(1 << d) : -1;
             }
-            CHECK.due("no more", x.gone(i, x.step(i, 3)), -1);
-            CHECK.due("nodes of a chain", x.step(i, 4), x.step(i, 0) == 13 ? 2 * x.step(i, 1) : 0);
+            CHECK.due("cell " + cell, x.candidates(cell, 0), left);
         }
-        tell(puzzle, x, x.told(0), score, level, went, 1);
-        for (int n = 0; n < 729; n++) {
-            boolean first = (x.candidates(n / 9, 2) >> n % 9 & 1) == 1;
-            boolean last = (x.candidates(n / 9, 0) >> n % 9 & 1) == 1;
-            CHECK.due("node " + n, last, first && !all.contains(n));
+    }
+
+    private static List<Integer> goneBy(SudokuGrader x, int i) {
+        List<Integer> gone = new ArrayList<>();
+        int count = x.step(i, 3);
+        for (int k = 0; k < count; k++) {
+            gone.add(x.gone(i, k));
+            CHECK.due("rising", k == 0 || gone.get(k - 1) < gone.get(k), true);
         }
+        CHECK.due("no more", x.gone(i, count), -1);
+        return gone;
     }
 
     private static void chainIsTold() {
         SudokuGrader x = Grids.graded(Puzzles.KNOWN[4]);
         CHECK.due("level", x.told(2), 13);
+        int steps = x.told(0);
         int chains = 0;
-        for (int i = 0; i < x.told(0); i++) {
+        for (int i = 0; i < steps; i++) {
             if (x.step(i, 0) == 13) {
                 chains++;
+                int nodes = x.step(i, 4);
                 CHECK.due("q is the first node", x.step(i, 2), x.link(i, 0));
-                CHECK.due("the last node is there", x.link(i, x.step(i, 4) - 1) >= 0, true);
-                CHECK.due("no node more", x.link(i, x.step(i, 4)), -1);
+                CHECK.due("the last node is there", x.link(i, nodes - 1) >= 0, true);
+                CHECK.due("no node more", x.link(i, nodes), -1);
                 CHECK.due("no node ahead", x.link(i, -1), -1);
             } else {
                 CHECK.due("no chain, no node", x.link(i, 0), -1);

@@ -1,3 +1,5 @@
+import java.util.Arrays;
+
 /** Promises 13, 14 and 15: search, searched, solution. */
 public final class SearchTest {
     private static final Check CHECK = new Check();
@@ -66,17 +68,24 @@ public final class SearchTest {
         tell("no 9", x, 1, 0, 0);
     }
 
-    private static void isSolution(SudokuGrader x, int k) {
+    private static int[] digitsOf(SudokuGrader x, int k) {
+        int[] digits = new int[81];
+        for (int cell = 0; cell < 81; cell++) {
+            digits[cell] = x.solution(k, cell);
+        }
+        return digits;
+    }
+
+    private static void isSolution(int[] digits, int[] given) {
         for (int house = 0; house < 27; house++) {
             int seen = 0;
             for (int cell : Plain.HOUSES.get(house)) {
-                seen |= 1 << x.solution(k, cell);
+                seen |= 1 << digits[cell];
             }
             CHECK.due("digits of house " + house, seen, 1022);
         }
         for (int cell = 0; cell < 81; cell++) {
-            boolean fits = (x.candidates(cell, 2) >> x.solution(k, cell) - 1 & 1) == 1;
-            CHECK.due("given digit of " + cell, fits, true);
+            CHECK.due("given digit of " + cell, given[cell] == 0 || given[cell] == digits[cell], true);
         }
     }
 
@@ -89,15 +98,13 @@ public final class SearchTest {
         CHECK.due("search(300)", x.search(300), 2);
         CHECK.due("ended", x.searched(0), 1);
         CHECK.due("not just one", x.searched(2), 0);
-        isSolution(x, 0);
-        isSolution(x, 1);
-        int first = 0;
-        while (first < 80 && x.solution(0, first) == x.solution(1, first)) {
-            first++;
-        }
-        CHECK.due("they are two", x.solution(0, first) != x.solution(1, first), true);
+        int[] first = digitsOf(x, 0);
+        int[] second = digitsOf(x, 1);
+        isSolution(first, new int[81]);
+        isSolution(second, new int[81]);
+        CHECK.due("they are two", Arrays.equals(first, second), false);
         for (int cell = 0; cell < 9; cell++) {
-            CHECK.due("rising tries, cell " + cell, x.solution(0, cell), cell + 1);
+            CHECK.due("rising tries, cell " + cell, first[cell], cell + 1);
         }
         int tries = x.searched(1);
         CHECK.due("search(300) after the end", x.search(300), 2);
@@ -120,7 +127,7 @@ public final class SearchTest {
                 x.search(300);
             }
             tell(known, x, 1, x.searched(1), 1);
-            isSolution(x, 0);
+            isSolution(digitsOf(x, 0), Puzzles.of(known));
             CHECK.due("solution(1, 0)", x.solution(1, 0), -1);
         }
     }
