@@ -27,6 +27,18 @@ final class Puzzles {
         "010600002000009000400020350003100470000530008850000000006000001000800507570000900",
     };
 
+    /** Its trace has a chain of twelve pairs, the most that there may be. */
+    static final String TWELVE_PAIRS =
+        "006090000020000090304050007000007204000001000008000000070200003900000060000103800";
+
+    /** When no more steps are left, a chain of thirteen pairs would do. */
+    static final String THIRTEEN_PAIRS =
+        "200000700000030086406000000700800500050697300000000000000000640001060009085010000";
+
+    /** No solution, and more tries than an object has calls for. */
+    static final String ENDLESS =
+        "000005080000601043000000000010500000000106000300000005530000061000000004000000000";
+
     private final Random random;
 
     Puzzles(long seed) {
