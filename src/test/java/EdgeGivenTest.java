@@ -25,6 +25,8 @@ public final class EdgeGivenTest {
         candidatesOfNoneLeft();
         candidatesRefused();
         allAsAtFirst();
+        traceAsAtFirst();
+        searchAsAtFirst();
         EDGES.end();
     }
 
@@ -292,6 +294,52 @@ public final class EdgeGivenTest {
                 EDGES.due("node(728) after " + way.name + " " + state.words, x.node(728), 1);
                 twin.node(728);
                 EDGES.same("going on after " + way.name, Look.goingOn(x), Look.goingOn(twin));
+            }
+        }
+    }
+
+    /** Where the old trace had chains the new one has none. */
+    private static void traceAsAtFirst() {
+        EDGES.says("PART 5", "A new GIVEN digit makes all as at first: candidates, trace, checker (its nodes, too), "
+                + "search.");
+        SudokuGrader x = Grids.graded(Grids.CHAINS);
+        Grids.putRows(x, Grids.EASY);
+        Grids.gradeOn(x);
+        for (int i = 0; i < 64; i++) {
+            EDGES.due("step(" + i + ", 0)", x.step(i, 0), 0);
+            EDGES.due("step(" + i + ", 4)", x.step(i, 4), 0);
+            EDGES.due("link(" + i + ", 0)", x.link(i, 0), -1);
+        }
+        EDGES.due("step(64, 0)", x.step(64, 0), -1);
+        Grids.putRows(x, Grids.CHAINS);
+        Grids.gradeOn(x);
+        EDGES.due("replay(0)", x.replay(0), 116);
+        EDGES.due("told(2)", x.told(2), 13);
+    }
+
+    /** A search that is left in its midst, or that has ended with digits left to try, leaves nothing behind. */
+    private static void searchAsAtFirst() {
+        EDGES.says("PART 5", "A new GIVEN digit makes all as at first: candidates, trace, checker (its nodes, too), "
+                + "search.");
+        int[] before = {0, 1, 2, 3, 5, 8, 13, 40, 150, 300};
+        String[] later = {Grids.SOLVED, Grids.TWO, Grids.HARD, Grids.CHAINS, Grids.EASY};
+        for (String earlier : new String[] {Grids.EASY, Grids.FOUR, Grids.HARD, Puzzles.ENDLESS}) {
+            for (int n : before) {
+                for (String grid : later) {
+                    SudokuGrader x = Grids.of(earlier);
+                    x.search(n);
+                    Grids.putRows(x, grid);
+                    SudokuGrader twin = Grids.of(grid);
+                    EDGES.due("search(0)", x.search(0), twin.search(0));
+                    EDGES.due("search(300)", x.search(300), twin.search(300));
+                    for (int what = 0; what < 3; what++) {
+                        EDGES.due("searched(" + what + ")", x.searched(what), twin.searched(what));
+                    }
+                    for (int cell = 0; cell < 81; cell++) {
+                        EDGES.due("solution(0, " + cell + ")", x.solution(0, cell), twin.solution(0, cell));
+                        EDGES.due("solution(1, " + cell + ")", x.solution(1, cell), twin.solution(1, cell));
+                    }
+                }
             }
         }
     }

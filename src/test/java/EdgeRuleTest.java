@@ -113,24 +113,40 @@ public final class EdgeRuleTest {
         EDGES.says("PART 2", "2 POINTING: in box p (18 to 26) the cells that have q (at least one) lie in one line "
                 + "(the row, if in a row and a column): q goes from the line's cells that aren't in the box.");
         for (int q : new int[] {1, 9}) {
-            int other = 10 - q;
-            SudokuGrader first = new SudokuGrader();
-            first.row(1, 111 * other * 1000000);
-            claim(first, 2, 18, q, -1);
-            first.row(2, 111 * other * 1000000);
-            noDigits(first, 2, 18);
-            for (int p : new int[] {17, 27, 0, -1, LEAST, GREATEST}) {
-                claim(first, 2, p, q, -1);
+            for (int box : new int[] {18, 22, 26}) {
+                for (int line = 0; line < 6; line++) {
+                    pointingAlong(box, line, q);
+                }
             }
-            claim(first, 2, 18, q, 6);
-            EDGES.due("in the box", first.candidates(2, 1), 511);
-            EDGES.due("in the line", first.candidates(8, 1), 511 - (1 << (q - 1)));
-            SudokuGrader last = new SudokuGrader();
-            for (int r = 6; r < 9; r++) {
-                last.row(r, 11 * other * 10);
+        }
+    }
+
+    /** The box has q in one of its rows (line 0 to 2) or columns (3 to 5) alone. */
+    private static void pointingAlong(int box, int line, int q) {
+        SudokuGrader x = new SudokuGrader();
+        int lastOne = -1;
+        int inside = -1;
+        for (int position = 0; position < 9; position++) {
+            int cell = Plain.HOUSES.get(box).get(position);
+            if (line < 3 ? position / 3 == line : position % 3 == line - 3) {
+                inside = cell;
+            } else {
+                lastOne = cell;
+                x.give(cell, 10 - q);
             }
-            claim(last, 2, 26, q, 6);
-            EDGES.due("in the column", last.candidates(8, 1), 511 - (1 << (q - 1)));
+        }
+        x.give(lastOne, 0);
+        claim(x, 2, box, q, -1);
+        x.give(lastOne, 10 - q);
+        noDigits(x, 2, box);
+        for (int p : new int[] {17, 27, 0, -1, LEAST, GREATEST}) {
+            claim(x, 2, p, q, -1);
+        }
+        claim(x, 2, box, q, 6);
+        int house = line < 3 ? inside / 9 : 9 + inside % 9;
+        for (int cell : Plain.HOUSES.get(house)) {
+            int stays = Plain.HOUSES.get(box).contains(cell) ? 511 : 511 - (1 << (q - 1));
+            EDGES.due("candidates(" + cell + ", 1)", x.candidates(cell, 1), stays);
         }
     }
 
@@ -412,6 +428,10 @@ public final class EdgeRuleTest {
         claim(x, 5, 0, Grids.bits(7, 8), 14);
         // now 8 and 9 are all that cells 0 and 1 have
         chain(x, 6, 8, 7, 16, 17);
+        // cells 8 and 15 share a box; all of row 1 that have 9 are two, but cell 8 is not one of them
+        SudokuGrader beside = new SudokuGrader();
+        beside.row(1, 12345078);
+        chain(beside, -1, 80, 143);
         // all of column 0 that have 9 are cells 0 and 9; all of box 18, cells 0 and 1
         SudokuGrader column = new SudokuGrader();
         for (int r = 2; r < 9; r++) {

@@ -15,6 +15,7 @@ public final class EdgeTraceTest {
         gradeRefused();
         noMoreSteps();
         firstRuleFirst();
+        firstInstanceOfAll();
         setsInOrder();
         chainsInOrder();
         twelvePairs();
@@ -132,6 +133,38 @@ public final class EdgeTraceTest {
         step(x, 0, 0, 1, 1, 13, 0);
         EDGES.due("candidates(0, 0)", x.candidates(0, 0), 510);
         EDGES.due("candidates(2, 0)", x.candidates(2, 0), 2);
+    }
+
+    private static void firstInstanceOfAll() {
+        EDGES.says("PART 3", "A STEP takes the first rule (by number) that has an instance at the candidates that "
+                + "there are, and its first instance; what goes is gone.");
+        for (String puzzle : Puzzles.ENDS) {
+            Plain plain = new Plain();
+            Grids.putRows(plain, puzzle);
+            while (plain.told(4) == 0) {
+                plain.grade(30);
+            }
+            int steps = plain.told(0);
+            EDGES.due("told(0)", Grids.graded(puzzle).told(0), steps);
+            for (int from = 0; from < steps; from += 15) {
+                sameSteps(Grids.graded(puzzle), plain, from, Math.min(steps, from + 15));
+            }
+        }
+    }
+
+    private static void sameSteps(SudokuGrader x, Plain plain, int from, int to) {
+        for (int i = from; i < to; i++) {
+            for (int what = 0; what < 5; what++) {
+                EDGES.due("step(" + i + ", " + what + ")", x.step(i, what), plain.step(i, what));
+            }
+            int nodes = plain.step(i, 4);
+            for (int k = 0; k < nodes; k++) {
+                EDGES.due("link(" + i + ", " + k + ")", x.link(i, k), plain.link(i, k));
+            }
+            int last = plain.step(i, 3) - 1;
+            EDGES.due("gone(" + i + ", 0)", x.gone(i, 0), plain.gone(i, 0));
+            EDGES.due("gone(" + i + ", " + last + ")", x.gone(i, last), plain.gone(i, last));
+        }
     }
 
     /** Two sets of one house hold at once; the first by bits is the greater one as a number. */
@@ -421,9 +454,7 @@ public final class EdgeTraceTest {
         EDGES.says("Promise 9", "The k-th node of STEP i's chain.");
         SudokuGrader x = Grids.graded(Grids.CHAINS);
         Plain plain = new Plain();
-        for (int r = 0; r < 9; r++) {
-            plain.row(r, Integer.parseInt(Grids.CHAINS.substring(9 * r, 9 * r + 9)));
-        }
+        Grids.putRows(plain, Grids.CHAINS);
         plain.grade(30);
         plain.grade(14);
         for (int i = 35; i < 44; i++) {

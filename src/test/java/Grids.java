@@ -28,6 +28,12 @@ final class Grids {
         }
     }
 
+    static void putRows(Plain plain, String text) {
+        for (int r = 0; r < 9; r++) {
+            plain.row(r, Integer.parseInt(text.substring(9 * r, 9 * r + 9)));
+        }
+    }
+
     static SudokuGrader graded(String text) {
         SudokuGrader x = of(text);
         gradeOn(x);
