@@ -19,9 +19,9 @@ public final class QuotesTest {
     private static final List<String[]> QUOTES = new ArrayList<>();
 
     public static void main(String[] args) throws IOException {
-        Path source = Path.of(args[0]).toAbsolutePath().normalize().getParent();
-        String document = plain(Files.readString(source.resolve("../../../../shared/DOC.md").normalize()));
-        readQuotes(source.resolve("../../test/java").normalize());
+        Path source = Path.of(args[0]).toAbsolutePath().getParent();
+        String document = plain(Files.readString(source.resolve("../../../../shared/DOC.md")));
+        readQuotes(source.resolve("../../test/java"));
         for (String[] quote : QUOTES) {
             CHECK.due(quote[0] + " says '" + quote[1] + "'", partOf(document, quote[0]).contains(quote[1]), true);
         }
