@@ -12,8 +12,11 @@ public final class EdgeGivenTest {
         firstAndLastCells();
         aloneOrAllNine();
         twoThatShareAHouse();
+        rowsAndColumns();
         positionsRise();
         leastAndGreatestNode();
+        everyCellAnyDigit();
+        digitsAsBits();
         givenDigit();
         givenNoneAnyMore();
         giveRefused();
@@ -97,6 +100,26 @@ public final class EdgeGivenTest {
         }
     }
 
+    /** Each row and column in its turn has 9 in its middle three cells alone. A box has it in one box, but is no line. */
+    private static void rowsAndColumns() {
+        EDGES.says("PART 1", "LINES are rows and columns.");
+        for (int p = 0; p < 18; p++) {
+            SudokuGrader x = new SudokuGrader();
+            List<Integer> line = Plain.HOUSES.get(p);
+            for (int position = 0; position < 9; position++) {
+                if (position / 3 != 1) {
+                    x.give(line.get(position), 1 + position);
+                }
+            }
+            x.give(line.get(8), 1);
+            EDGES.due("claim(3, " + p + ", 9)", x.claim(3, p, 9), 6);
+        }
+        SudokuGrader box = new SudokuGrader();
+        for (int p = 18; p < 27; p++) {
+            EDGES.due("claim(3, " + p + ", 9)", box.claim(3, p, 9), -1);
+        }
+    }
+
     /**
      * Of each kind's first and last house the first and the last cell come down to 8 and 9, each by
      * a line across that has them in two cells alone: these two positions are then a naked pair.
@@ -152,6 +175,32 @@ public final class EdgeGivenTest {
         y.give(79, 9);
         y.grade(1);
         EDGES.due("gone(0, 19)", y.gone(0, 19), 728);
+    }
+
+    private static void everyCellAnyDigit() {
+        EDGES.says("PART 1", "A cell may have a GIVEN digit 1 to 9.");
+        for (int digit = 1; digit <= 9; digit++) {
+            SudokuGrader x = new SudokuGrader();
+            for (int cell = 0; cell < 81; cell++) {
+                EDGES.due("give(" + cell + ", " + digit + ")", x.give(cell, digit), true);
+            }
+            EDGES.due("give(0, 10)", x.give(0, 10), false);
+            EDGES.due("candidates(0, 2)", Integer.bitCount(x.candidates(0, 2)), 1);
+        }
+    }
+
+    private static void digitsAsBits() {
+        EDGES.says("PART 1", "CANDIDATES of a cell are digits, as bits: digit d is bit d - 1.");
+        int[] bits = {511, 1, 2, 4, 8, 16, 32, 64, 128, 256};
+        for (int cell = 0; cell < 81; cell++) {
+            SudokuGrader x = new SudokuGrader();
+            for (int digit = 9; digit >= 0; digit--) {
+                x.give(cell, digit);
+                for (int who = 0; who < 3; who++) {
+                    candidates(x, cell, who, bits[digit]);
+                }
+            }
+        }
     }
 
     private static void givenDigit() {

@@ -11,6 +11,7 @@ public final class EdgeRuleTest {
     private static final int[] FISH = {8, 11, 12};
 
     public static void main(String[] args) {
+        atSomeCandidates();
         single();
         singleNotAlone();
         hiddenSingle();
@@ -48,6 +49,29 @@ public final class EdgeRuleTest {
     private static void noDigits(SudokuGrader x, int rule, int p) {
         for (int q : NO_DIGITS) {
             claim(x, rule, p, q, -1);
+        }
+    }
+
+    /** One claim makes another an instance, and itself none: 9 in box 18, then in row 0, then in column 0. */
+    private static void atSomeCandidates() {
+        EDGES.says("PART 2", "RULES, each with its INSTANCES (p, q) at some candidates, and what goes:");
+        SudokuGrader x = new SudokuGrader();
+        x.row(0, 12000000);
+        x.row(1, 345000000);
+        x.row(2, 678000000);
+        claim(x, 3, 0, 9, -1);
+        claim(x, 1, 0, 9, -1);
+        claim(x, 0, 0, 9, -1);
+        claim(x, 2, 18, 9, 6);
+        claim(x, 2, 18, 9, -1);
+        claim(x, 1, 0, 9, 8);
+        claim(x, 1, 0, 9, -1);
+        claim(x, 0, 0, 9, 6);
+        claim(x, 0, 0, 9, -1);
+        for (int cell = 9; cell < 81; cell++) {
+            int given = x.candidates(cell, 2);
+            boolean below = cell % 9 == 0 && cell > 26;
+            EDGES.due("candidates(" + cell + ", 1)", x.candidates(cell, 1), below ? 255 : given);
         }
     }
 

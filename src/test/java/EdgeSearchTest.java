@@ -1,5 +1,6 @@
 import java.util.List;
 import java.util.Set;
+import java.util.TreeSet;
 
 /** Boundary cases of promises 13, 14 and 15, and of Part 5. */
 public final class EdgeSearchTest {
@@ -16,6 +17,17 @@ public final class EdgeSearchTest {
     /** One solution, after more than 300 tries. */
     private static final String LONG = Puzzles.KNOWN[2];
     private static final int LONG_TRIES = 469;
+    /** Hidden ones and singles by turns solve it. */
+    private static final String BY_TURNS =
+        "102000006000007000003402800000803007000000050500000001060380000040000092000010004";
+    /** Grading solves them, at the LEVELS 2, 3, 4 and 5. */
+    private static final String[] MORE_RULES = {
+        "000000000000700629000608500400800060061900005030020040007560000050030400100000003",
+        "278000090030010008050000000000000000060280050500079002000038001480050900000100700",
+        "000060000900870065005000400400000090080600000100237000200090000003000050806002107",
+        "000089000030000046610000028000340000005000000041092000800000030020000607000450000",
+    };
+    private static final int[] MORE_RULES_TRIES = {2, 4, 4, 4};
 
     public static void main(String[] args) {
         noTries();
@@ -25,6 +37,8 @@ public final class EdgeSearchTest {
         searchRefused();
         beginsWithTheFirstCall();
         beginsAtFirst();
+        closedByTwoRules();
+        closedInAnyOrder();
         deadByACell();
         deadByAHouse();
         deadByWhatIsGiven();
@@ -147,6 +161,59 @@ public final class EdgeSearchTest {
         searched(y, 1, HARD_TRIES, 1);
         EDGES.due("candidates(1, 0) after a search", y.candidates(1, 0), 511);
         EDGES.due("candidates(1, 1) after a search", y.candidates(1, 1), 511);
+    }
+
+    private static void closedByTwoRules() {
+        EDGES.says("PART 5", "CLOSED candidates have no instance of 0 and 1 (as long as there is one, it's taken; what is "
+                + "left then doesn't hang on the order).");
+        SudokuGrader x = Grids.of(BY_TURNS);
+        search(x, 0, 1);
+        searched(x, 1, 0, 1);
+        EDGES.due("told(2)", Grids.graded(BY_TURNS).told(2), 1);
+        for (int i = 0; i < MORE_RULES.length; i++) {
+            SudokuGrader y = Grids.graded(MORE_RULES[i]);
+            EDGES.due("told(2)", y.told(2), i + 2);
+            search(y, 0, 0);
+            searched(y, 0, 0, -1);
+            search(y, 300, 1);
+            searched(y, 1, MORE_RULES_TRIES[i], 1);
+            for (int cell = 0; cell < 81; cell++) {
+                EDGES.due("candidates(" + cell + ", 0)", y.candidates(cell, 0), 1 << (y.solution(0, cell) - 1));
+            }
+        }
+    }
+
+    /** The model's closing leaves the same from behind; the tries hang on what is left, so they are the same too. */
+    private static void closedInAnyOrder() {
+        EDGES.says("PART 5", "CLOSED candidates have no instance of 0 and 1 (as long as there is one, it's taken; what is "
+                + "left then doesn't hang on the order).");
+        for (String puzzle : MORE_RULES) {
+            Set<Integer> first = Plain.atFirst(Puzzles.of(puzzle));
+            EDGES.due("what is left", PlainSearch.closed(first).equals(closedFromBehind(first)), true);
+            PlainSearch plain = new PlainSearch(Puzzles.of(puzzle));
+            SudokuGrader x = Grids.of(puzzle);
+            for (int n = 0; n < 5; n++) {
+                plain.allow(1);
+                search(x, 1, plain.found.size());
+                searched(x, plain.ended() ? 1 : 0, plain.tries);
+            }
+        }
+    }
+
+    private static Set<Integer> closedFromBehind(Set<Integer> start) {
+        Set<Integer> there = new TreeSet<>(start);
+        boolean more = true;
+        while (more) {
+            more = false;
+            for (int rule = 1; rule >= 0; rule--) {
+                for (int p = 80; p >= 0; p--) {
+                    for (int q = 9; q >= 1; q--) {
+                        more |= there.removeAll(Plain.byRule(there, rule, p, q));
+                    }
+                }
+            }
+        }
+        return there;
     }
 
     private static Set<Integer> closed(int... cellsAndDigits) {

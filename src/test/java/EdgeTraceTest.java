@@ -20,6 +20,8 @@ public final class EdgeTraceTest {
         chainsInOrder();
         twelvePairs();
         thirteenPairs();
+        stepsAreTheTrace();
+        weights();
         toldSteps();
         toldScore();
         toldLevel();
@@ -252,6 +254,50 @@ public final class EdgeTraceTest {
         }
         boolean goes = there.stream().anyMatch(n -> Plain.weak(there, n, 39) && Plain.weak(there, n, 678));
         return holds && goes;
+    }
+
+    /** By one call, or by several with refused ones in between: the same trace. */
+    private static void stepsAreTheTrace() {
+        EDGES.says("PART 3", "The steps are the TRACE.");
+        for (int each : new int[] {1, 7, 30}) {
+            SudokuGrader x = Grids.of(Puzzles.KNOWN[4]);
+            SudokuGrader whole = Grids.of(Puzzles.KNOWN[4]);
+            grade(whole, 30, 28);
+            for (int done = 0; done < 28; done += each) {
+                told(x, 0, done);
+                step(x, done, -1, -1, -1, -1, -1);
+                grade(x, each, Math.min(each, 28 - done));
+                grade(x, 31, -1);
+            }
+            for (int i = 0; i < 28; i++) {
+                for (int what = 0; what < 5; what++) {
+                    EDGES.due("step(" + i + ", " + what + ")", x.step(i, what), whole.step(i, what));
+                }
+            }
+            step(x, 28, -1, -1, -1, -1, -1);
+        }
+    }
+
+    /** By how many steps each rule has in a trace; between them, the traces have every rule. */
+    private static void weights() {
+        EDGES.says("PART 3", "WEIGHTS of the rules 0 to 13: 1, 2, 4, 5, 6, 8, 9, 12, 14, 16, 20, 18, 24, 30; the SCORE "
+                + "is the sum of all steps', the LEVEL the greatest rule.");
+        for (String puzzle : Puzzles.RARE) {
+            SudokuGrader x = Grids.graded(puzzle);
+            int steps = x.told(0);
+            int[] count = new int[14];
+            for (int i = 0; i < steps; i++) {
+                count[x.step(i, 0)]++;
+            }
+            told(x, 1, count[0] + 2 * count[1] + 4 * count[2] + 5 * count[3] + 6 * count[4] + 8 * count[5] + 9 * count[6]
+                    + 12 * count[7] + 14 * count[8] + 16 * count[9] + 20 * count[10] + 18 * count[11] + 24 * count[12]
+                    + 30 * count[13]);
+            int level = 13;
+            while (count[level] == 0) {
+                level--;
+            }
+            told(x, 2, level);
+        }
     }
 
     private static void toldSteps() {

@@ -1,3 +1,4 @@
+import java.io.IOException;
 import java.lang.reflect.Constructor;
 import java.lang.reflect.Field;
 import java.lang.reflect.Method;
@@ -5,17 +6,26 @@ import java.lang.reflect.Modifier;
 import java.util.Arrays;
 import java.util.Set;
 import java.util.TreeSet;
+import java.util.regex.Matcher;
+import java.util.regex.Pattern;
 
-/** The public face of the document, its constant, and rule 1 of LANGUAGE.md: nothing beside it. */
+/**
+ * The public face, as the document writes it out, and rule 1 of LANGUAGE.md: nothing beside it. The
+ * path of the class is the first argument.
+ */
 public final class FaceTest {
     private static final Check CHECK = new Check();
-    private static final Set<String> FACE = new TreeSet<>(Arrays.asList(
-            "boolean give[int, int]", "boolean row[int, int]", "int grade[int]", "int candidates[int, int]",
-            "int told[int]", "int step[int, int]", "int gone[int, int]", "int link[int, int]", "int node[int]",
-            "int claim[int, int, int]", "int replay[int]", "int search[int]", "int searched[int]",
-            "int solution[int, int]"));
+    private static final Pattern METHOD = Pattern.compile("public (\\w+) (\\w+)\\(([^)]*)\\);");
 
-    public static void main(String[] args) {
+    private static Set<String> face;
+
+    public static void main(String[] args) throws IOException {
+        String words = new Document(args[0]).part("The public face");
+        face = methodsIn(words);
+        CHECK.due("methods in the document", face.size(), 14);
+        CHECK.due("the class", words.contains("public final class SudokuGrader {"), true);
+        CHECK.due("the constructor", words.contains("public SudokuGrader();"), true);
+        CHECK.due("the constant", words.contains("public static final int NONE = " + SudokuGrader.NONE + ";"), true);
         CHECK.due("NONE", SudokuGrader.NONE, -1);
         CHECK.due("public and final", SudokuGrader.class.getModifiers(), Modifier.PUBLIC | Modifier.FINAL);
         methods();
@@ -25,10 +35,24 @@ public final class FaceTest {
         CHECK.end();
     }
 
+    /** Each as its answer's type, its name and its parameters' types. */
+    private static Set<String> methodsIn(String words) {
+        Set<String> all = new TreeSet<>();
+        Matcher m = METHOD.matcher(words);
+        while (m.find()) {
+            String[] types = m.group(3).split(", ");
+            for (int i = 0; i < types.length; i++) {
+                types[i] = types[i].split(" ")[0];
+            }
+            all.add(m.group(1) + " " + m.group(2) + Arrays.toString(types));
+        }
+        return all;
+    }
+
     private static void methods() {
         Set<String> seen = new TreeSet<>();
         Set<String> names = new TreeSet<>();
-        for (String f : FACE) {
+        for (String f : face) {
             names.add(f.substring(f.indexOf(' ') + 1, f.indexOf('[')));
         }
         for (Method m : SudokuGrader.class.getDeclaredMethods()) {
@@ -40,7 +64,7 @@ public final class FaceTest {
                 CHECK.due(m.getName() + " bears a public name", names.contains(m.getName()), false);
             }
         }
-        CHECK.due("the methods " + seen, seen.equals(FACE), true);
+        CHECK.due("the methods " + seen, seen.equals(face), true);
     }
 
     private static void constructors() {

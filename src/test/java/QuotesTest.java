@@ -8,8 +8,8 @@ import java.util.regex.Pattern;
 import java.util.stream.Stream;
 
 /**
- * The tests of boundary cases say the document's own words, and leave no words of promises 1 to 15
- * without a test. The path of the class is the first argument: the document is found from there.
+ * The Edge tests say the document's own words, and leave no words of it without a test, from "What
+ * it is" to promise 15; its face is FaceTest's. The path of the class is the first argument.
  */
 public final class QuotesTest {
     private static final Check CHECK = new Check();
@@ -19,20 +19,20 @@ public final class QuotesTest {
     private static final List<String[]> QUOTES = new ArrayList<>();
 
     public static void main(String[] args) throws IOException {
-        Path source = Path.of(args[0]).toAbsolutePath().getParent();
-        String document = plain(Files.readString(source.resolve("../../../../shared/DOC.md")));
-        readQuotes(source.resolve("../../test/java"));
+        Document document = new Document(args[0]);
+        readQuotes(Path.of(args[0]).toAbsolutePath().getParent().resolve("../../test/java"));
         for (String[] quote : QUOTES) {
-            CHECK.due(quote[0] + " says '" + quote[1] + "'", partOf(document, quote[0]).contains(quote[1]), true);
+            CHECK.due(quote[0] + " says '" + quote[1] + "'", document.part(quote[0]).contains(quote[1]), true);
         }
+        nothingUntested("What it is", document.part("What it is"));
+        for (int n = 1; n <= 5; n++) {
+            nothingUntested("PART " + n, withoutTitle(document.part("PART " + n)));
+        }
+        nothingUntested("The constants", document.part("The constants"));
         for (int n = 1; n <= 15; n++) {
-            nothingUntested(document, "Promise " + n);
+            nothingUntested("Promise " + n, withoutFace(document.part("Promise " + n + ":")));
         }
         CHECK.end();
-    }
-
-    private static String plain(String text) {
-        return text.replaceAll("\\s+", " ");
     }
 
     private static void readQuotes(Path folder) throws IOException {
@@ -57,21 +57,19 @@ public final class QuotesTest {
         }
     }
 
-    /** The document from the words that begin this part to those that begin the next one. */
-    private static String partOf(String document, String where) {
-        int part = where.startsWith("PART ") ? Integer.parseInt(where.substring(5)) : 0;
-        String from = part > 0 ? where + ". " : "## " + where;
-        String to = part == 0 ? "## " : part == 5 ? "The constants:" : "PART " + (part + 1) + ". ";
-        int begin = document.indexOf(from);
-        int end = begin < 0 ? -1 : document.indexOf(to, begin + from.length());
-        return begin < 0 ? "" : document.substring(begin, end < 0 ? document.length() : end);
+    /** Some parts begin with a word that only names them. */
+    private static String withoutTitle(String part) {
+        return part.replaceFirst("^[A-Z]+\\. ", "");
     }
 
-    private static void nothingUntested(String document, String where) {
-        String text = partOf(document, where + ":");
-        int begin = text.indexOf("`: ");
-        CHECK.due(where + " stands in the document", begin > 0, true);
-        String words = begin < 0 ? "" : text.substring(begin + 3);
+    /** A promise begins with its method, in backquotes. */
+    private static String withoutFace(String part) {
+        int face = part.indexOf("`: ");
+        return face < 0 ? part : part.substring(face + 3);
+    }
+
+    private static void nothingUntested(String where, String words) {
+        CHECK.due(where + " stands in the document", words.isBlank(), false);
         boolean[] tested = new boolean[words.length()];
         for (String[] quote : QUOTES) {
             int at = quote[0].equals(where) ? words.indexOf(quote[1]) : -1;
