@@ -588,7 +588,7 @@ public final class SudokuGrader {
             if (!load(board, rule, p)) {
                 return 0;
             }
-            return pick(SIZE[rule], SIZE[rule], 0, 0, 0);
+            return pick(masks, SIZE[rule], SIZE[rule], 0, 0, 0);
         }
 
         int mark(Board board, int rule, int p, int q) {
@@ -651,14 +651,14 @@ public final class SudokuGrader {
         }
 
         /** Goes at most four deep: left falls by one each time. */
-        private int pick(int size, int left, int from, int set, int union) {
+        private static int pick(int[] masks, int size, int left, int from, int set, int union) {
             if (left <= 0) {
-                return Integer.bitCount(union) == size && touchesOthers(set, union) ? set : 0;
+                return Integer.bitCount(union) == size && touchesOthers(masks, set, union) ? set : 0;
             }
             for (int i = from; i <= 9 - left; i++) {
                 int wider = union | masks[i];
                 if (Integer.bitCount(wider) <= size) {
-                    int picked = pick(size, left - 1, i + 1, set | 1 << i, wider);
+                    int picked = pick(masks, size, left - 1, i + 1, set | 1 << i, wider);
                     if (picked != 0) {
                         return picked;
                     }
@@ -667,7 +667,7 @@ public final class SudokuGrader {
             return 0;
         }
 
-        private boolean touchesOthers(int set, int union) {
+        private static boolean touchesOthers(int[] masks, int set, int union) {
             for (int i = 0; i < 9; i++) {
                 if ((set >> i & 1) == 0 && (masks[i] & union) != 0) {
                     return true;

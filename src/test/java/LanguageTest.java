@@ -43,7 +43,7 @@ public final class LanguageTest {
     /** A method begins with a line that opens a brace behind a parameter list, at 4 or 8 spaces. */
     private static void lengths(String code) {
         String[] lines = code.split("\n");
-        Pattern head = Pattern.compile("^( {4}| {8})(?:\\w[\\w\\[\\] ]* )?\\w+\\(([^)]*)\\) \\{$");
+        Pattern head = Pattern.compile("^( {4}| {8})(?:\\w[\\w\\[\\] ]* )?(\\w+)\\(([^)]*)\\) \\{$");
         int methods = 0;
         for (int i = 0; i < lines.length; i++) {
             Matcher m = head.matcher(lines[i]);
@@ -56,8 +56,20 @@ public final class LanguageTest {
                 end++;
             }
             CHECK.due("short: " + lines[i].trim(), end - i < MOST_LINES, true);
-            CHECK.due("parameters: " + lines[i].trim(), m.group(2).split(",").length <= 7, true);
+            CHECK.due("parameters: " + lines[i].trim(), m.group(3).split(",").length <= 7, true);
+            recursion(lines, i, end, m.group(2));
         }
         CHECK.due("methods were seen", methods > 50, true);
+    }
+
+    /** Rule 8: "Recursion: a private static method that calls itself", with what is left to go as an argument. */
+    private static void recursion(String[] lines, int from, int to, String name) {
+        Pattern itself = Pattern.compile("(?<![.\\w])" + name + "\\(");
+        for (int i = from + 1; i < to && i < lines.length; i++) {
+            if (itself.matcher(lines[i]).find()) {
+                CHECK.due("private static: " + lines[from].trim(), lines[from].contains("private static "), true);
+                CHECK.due("goes down by one: " + lines[i].trim(), lines[i].contains("left - 1"), true);
+            }
+        }
     }
 }
